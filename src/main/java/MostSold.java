@@ -196,7 +196,7 @@ public final class MostSold {
     }
 
     public int fault() {
-        return rules.findFault();
+        return rules.faultAt;
     }
 
     public int rule(int item, int week) {
@@ -497,7 +497,7 @@ public final class MostSold {
         for (int what = 0; what <= 7; what++) {
             h = 31 * h + count(what);
         }
-        h = 31 * h + rules.findFault();
+        h = 31 * h + rules.faultAt;
         for (int week = 0; week < WEEKS; week += 5) {
             tally.makeList(week, week);
             h = 31 * h + tally.listed;
@@ -741,16 +741,16 @@ public final class MostSold {
         private static final int[] MOST = {9999, 1, 51, 51, 167, 167, 500, 500, 500, 500, 500, 500, 500, 500, 2};
         private static final int[] USUAL = {100, 1, 0, 51, 0, 167, 100, 100, 100, 100, 100, 100, 100, 100, 0};
 
-        final int[] text;
+        private final int[] text;
         int length;
+        int faultAt;
         final int[] inForce;
         final int[] byPart;
         private final int[] itemOf;
         private final int[] numberOf;
         private final int[] fromWeek;
-        private int parts;
-        private boolean isParsed;
-        private int faultAt;
+        private int closedParts;
+        private int startOfLast;
         private int at;
 
         Rules() {
@@ -768,35 +768,28 @@ public final class MostSold {
             }
             text[length] = b;
             length++;
-            isParsed = false;
+            parseLast();
             return length;
         }
 
         int clear() {
             int before = length;
             length = 0;
-            isParsed = false;
+            faultAt = 0;
+            closedParts = 0;
+            startOfLast = 0;
             return before;
         }
 
-        int findFault() {
-            if (!isParsed) {
-                faultAt = parse();
-                if (faultAt != NONE) {
-                    parts = 0;
-                }
-                isParsed = true;
-            }
-            return faultAt;
-        }
-
         void bindTo(int week) {
-            findFault();
             for (int item = 0; item < ITEMS; item++) {
                 inForce[item] = USUAL[item];
                 byPart[item] = NONE;
             }
-            for (int part = 0; part < parts; part++) {
+            if (faultAt != NONE) {
+                return;
+            }
+            for (int part = 0; part <= closedParts && part < MOST_PARTS; part++) {
                 if (fromWeek[part] <= week) {
                     inForce[itemOf[part]] = numberOf[part];
                     byPart[itemOf[part]] = part;
@@ -804,29 +797,25 @@ public final class MostSold {
             }
         }
 
-        private int parse() {
-            at = 0;
-            parts = 0;
-            while (parts < MOST_PARTS) {
-                int wrong = parsePart();
-                if (wrong != NONE) {
-                    return wrong;
-                }
-                if (at == length) {
-                    return NONE;
-                }
-                if (byteAt(at) != ';') {
-                    return at;
-                }
-                at++;
+        // A byte can change only the last part, so those that a ; has closed are not read again.
+        private void parseLast() {
+            at = startOfLast;
+            faultAt = parsePart();
+            if (faultAt != NONE || at == length) {
+                return;
             }
-            return at;
+            faultAt = at;
+            if (byteAt(at) == ';') {
+                closedParts++;
+                startOfLast = at + 1;
+                faultAt = startOfLast;
+            }
         }
 
-        // Adds one part, or answers the place of its fault.
+        // NONE, or the place of the fault in the last part.
         private int parsePart() {
             int item = itemOfLetter(byteAt(at));
-            if (item == NONE) {
+            if (item == NONE || closedParts >= MOST_PARTS) {
                 return at;
             }
             at++;
@@ -856,10 +845,9 @@ public final class MostSold {
                     return first;
                 }
             }
-            itemOf[parts] = item;
-            numberOf[parts] = number;
-            fromWeek[parts] = from;
-            parts++;
+            itemOf[closedParts] = item;
+            numberOf[closedParts] = number;
+            fromWeek[closedParts] = from;
             return NONE;
         }
 
@@ -868,7 +856,7 @@ public final class MostSold {
             int number = NONE;
             for (int i = 0; i < mostFigures; i++) {
                 int figure = byteAt(at) - '0';
-                if (!within(figure, 0, 9)) {
+                if (figure < 0 || figure > 9) {
                     return number;
                 }
                 number = (i == 0 ? 0 : 10 * number) + figure;
@@ -878,7 +866,7 @@ public final class MostSold {
         }
 
         private int byteAt(int place) {
-            return within(place, 0, length - 1) ? text[place] : NONE;
+            return 0 <= place && place < length ? text[place] : NONE;
         }
 
         private static int itemOfLetter(int letter) {
