@@ -27,7 +27,7 @@ public final class MostSold {
     private static final int SHUT = 0, SILENT = 1, TELLING = 2;
     private static final int SALE_ITEMS = 7;
 
-    private static final int BY_NUMBER = 0, LATER_FIRST = 1, SHARED = 2;
+    private static final int LATER_FIRST = 1, SHARED = 2;
 
     private static final int ITEMS = 15;
     private static final int HEARD_FOR_ONE = 0, BUNDLES = 1, RETURN_AHEAD = 2, LATEST = 3;

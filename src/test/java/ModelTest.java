@@ -8,6 +8,7 @@ public final class ModelTest {
   private final int run;
   private final int lastWeek;
   private final int mostShops;
+  private final boolean isFull;
   private long seed;
   private int calls = 0;
 
@@ -15,7 +16,8 @@ public final class ModelTest {
     this.run = run;
     this.seed = run * 0x9E3779B97F4A7C15L + 12345;
     this.lastWeek = below(4) == 0 ? 51 : 1 + below(6);
-    this.mostShops = 1 + below(below(6) == 0 ? 16 : 7);
+    this.isFull = run % 20 == 0;
+    this.mostShops = isFull ? 16 : 1 + below(below(6) == 0 ? 16 : 7);
   }
 
   public static void main(String[] args) {
@@ -29,12 +31,23 @@ public final class ModelTest {
     return (int) Long.remainderUnsigned(seed >>> 20, n);
   }
 
+  private static final int[] WILD = {
+    Integer.MIN_VALUE, Integer.MIN_VALUE + 1, -1000000, -52, -2, 3 << 16, 1 << 30, Integer.MAX_VALUE - 6, Integer.MAX_VALUE};
+
+  private boolean isWild() {
+    return below(300) == 0;
+  }
+
+  private int wild() {
+    return WILD[below(WILD.length)];
+  }
+
   private int week() {
-    return below(60) == 0 ? 50 + below(4) : below(80) == 0 ? -1 : below(lastWeek + 1);
+    return isWild() ? wild() : below(60) == 0 ? 50 + below(4) : below(80) == 0 ? -1 : below(lastWeek + 1);
   }
 
   private int item(int count) {
-    return below(40) == 0 ? below(count + 3) - 1 : below(Math.max(1, count));
+    return isWild() ? wild() : below(40) == 0 ? below(count + 3) - 1 : below(Math.max(1, count));
   }
 
   private void is(String call, long got, long want) {
@@ -43,11 +56,11 @@ public final class ModelTest {
   }
 
   private void go() {
-    for (int i = below(5); i >= 0; i--) addTitle();
-    for (int i = below(7); i >= 0; i--) addThing();
-    for (int i = 0; i < mostShops; i++) addShop();
+    for (int i = isFull ? 15 : below(5); i >= 0; i--) addTitle();
+    for (int i = isFull ? 28 : below(7); i >= 0; i--) addThing();
+    for (int i = isFull ? 20 : mostShops; i > 0; i--) addShop();
     if (below(2) == 0) typeRules();
-    for (int i = below(60); i >= 0; i--) addSale();
+    for (int i = isFull ? 170 : below(60); i >= 0; i--) addSale();
     while (calls < MOST_CALLS - 1 && !Due.anyWrong()) step();
     is("digest()", x.digest(), y.digest());
   }
@@ -90,9 +103,9 @@ public final class ModelTest {
     int shop = item(x.count(2));
     int thing = item(x.count(1));
     int week = week();
-    int hour = below(40) == 0 ? below(170) - 1 : below(3) == 0 ? below(168) : 24 * below(7) + below(4);
-    int many = below(30) == 0 ? below(100003) - 1 : 1 + below(below(4) == 0 ? 300 : 12);
-    int sort = below(60) == 0 ? below(6) - 1 : below(4) * below(2);
+    int hour = isWild() ? wild() : below(40) == 0 ? below(170) - 1 : below(3) == 0 ? below(168) : 24 * below(7) + below(4);
+    int many = isWild() ? wild() : below(30) == 0 ? below(100003) - 1 : 1 + below(below(4) == 0 ? 300 : 12);
+    int sort = isWild() ? wild() : below(60) == 0 ? below(6) - 1 : below(4) * below(2);
     int told = below(3) == 0 ? week() : Math.min(51, week + below(2) * below(4));
     String call = "sale(" + shop + ", " + thing + ", " + week + ", " + hour + ", " + many + ", " + sort + ", " + told + ")";
     is(call, x.sale(shop, thing, week, hour, many, sort, told), y.sale(shop, thing, week, hour, many, sort, told));
@@ -102,8 +115,8 @@ public final class ModelTest {
     int sale = item(x.count(3));
     int shop = item(x.count(2));
     int week = week();
-    int later = Math.min(51, week + below(4));
-    int coins = below(20) == 0 ? below(1200) - 100 : below(15);
+    int later = isWild() ? wild() : Math.min(51, week + below(4));
+    int coins = isWild() ? wild() : below(20) == 0 ? below(1200) - 100 : below(15);
     switch (below(5)) {
       case 0: is("strike(" + sale + ", " + later + ")", x.strike(sale, later), y.strike(sale, later)); break;
       case 1: is("back(" + sale + ")", x.back(sale), y.back(sale)); break;
@@ -152,8 +165,8 @@ public final class ModelTest {
     int t = item(x.count(0));
     int w = week();
     int v = below(3) == 0 ? week() : w;
-    int what = below(15) == 0 ? below(5) - 1 : below(3);
-    int i = below(6) - below(8) / 7;
+    int what = isWild() ? wild() : below(15) == 0 ? below(5) - 1 : below(3);
+    int i = isWild() ? wild() : below(6) - below(8) / 7;
     int shop = item(x.count(2));
     int thing = item(x.count(1));
     String tw = "(" + t + ", " + w + ", ";
@@ -172,10 +185,10 @@ public final class ModelTest {
     int a = item(x.count(2));
     int b = item(x.count(2));
     int w = week();
-    int what = below(15) == 0 ? below(6) - 1 : below(4);
+    int what = isWild() ? wild() : below(15) == 0 ? below(6) - 1 : below(4);
     int sale = item(x.count(3));
     int thing = item(x.count(1));
-    int rule = below(16) - below(8) / 7;
+    int rule = isWild() ? wild() : below(16) - below(8) / 7;
     switch (below(9)) {
       case 0: is("alike(" + a + ", " + b + ", " + w + ", " + what, x.alike(a, b, w, what), y.alike(a, b, w, what)); break;
       case 1: is("odd(" + w, x.odd(w), y.odd(w)); break;
@@ -192,20 +205,20 @@ public final class ModelTest {
   private void askRare() {
     int sale = item(x.count(3));
     int w = week();
-    int coins = below(12) == 0 ? below(20000) - 2000 : below(80);
+    int coins = isWild() ? wild() : below(12) == 0 ? below(20000) - 2000 : below(80);
     if (below(4) == 0) is("moves(" + sale, x.moves(sale), y.moves(sale));
     else is("ask(" + w + ", " + coins, x.ask(w, coins), y.ask(w, coins));
   }
 
   private void useSheets() {
-    int s = below(20) == 0 ? below(6) - 1 : below(3);
-    int t = below(20) == 0 ? below(6) - 1 : below(3);
-    int m = below(30) == 0 ? below(6) - 1 : below(8) == 0 ? below(4) : s == 1 ? 1 : 3;
-    int i = below(30) - below(10) / 9;
-    int j = below(12);
-    int n = below(10) == 0 ? below(140) - 8 : below(31);
+    int s = isWild() ? wild() : below(20) == 0 ? below(6) - 1 : below(3);
+    int t = isWild() ? wild() : below(20) == 0 ? below(6) - 1 : below(3);
+    int m = isWild() ? wild() : below(30) == 0 ? below(6) - 1 : below(8) == 0 ? below(4) : s == 1 ? 1 : 3;
+    int i = below(50) == 0 ? wild() : below(30) - below(10) / 9;
+    int j = below(50) == 0 ? wild() : below(12);
+    int n = below(50) == 0 ? wild() : below(10) == 0 ? below(140) - 8 : below(31);
     int w = week();
-    int c = below(10) - below(10) / 9;
+    int c = isWild() ? wild() : below(10) - below(10) / 9;
     long v = below(5) == 0 ? (long) below(1 << 30) * below(1 << 30) * 9 : below(4);
     switch (below(9)) {
       case 0: is("sheet(" + s + ", " + m + ", " + n, x.sheet(s, m, n), y.sheet(s, m, n)); break;

@@ -32,6 +32,9 @@ public final class SheetsTest {
     Due.is("a new row", x.sheet(3, 3, 120), 120);
     Due.is("is all 0", x.get(3, 3, 119), 0);
     x.put(3, 3, 0, 7);
+    x.sheet(3, 3, 120);
+    Due.is("the first item too", x.get(3, 3, 0), 0);
+    x.put(3, 3, 0, 7);
     Due.is("refused", x.sheet(3, 2, -5), -15);
     Due.is("as it was", x.get(3, 3, 0), 7);
   }

@@ -9,6 +9,7 @@ public final class SumsTest {
     sums();
     sumsBelowZero();
     sumsCutTowardZero();
+    leastSum();
     sure();
     list();
     ties();
@@ -57,6 +58,8 @@ public final class SumsTest {
       1 + 10 + 1 + 1000, 1 + 10 + 3 + 1000, 1 + 3 + 1000, 1 + 10 + 3 + 1000, 1 + 10 + 3, 1 + 10 + 3 + 1000,
       10 + 3 + 1000, 3 + 1000, 1 + 10 + 3, 1 + 10, 0, 0};
     for (int v = 0; v < 12; v++) Due.is("amount by rules of " + v, x.amount(0, 0, 5, v), due[v]);
+    Due.rules(x, "h=1");
+    Due.is("each one heard is one", x.amount(0, 0, 5, 0), 1 + 10 + 100 + 1000);
     Due.rules(x, "l=0");
     Due.is("told in its own week alone", x.amount(0, 0, 5, 0), 1);
     Due.rules(x, "o=40;c=40");
@@ -155,6 +158,23 @@ public final class SumsTest {
     Due.is("a form that counts for nothing", x.sum(0, 5, 5, 0), 0);
     Due.rules(x, "f0=500;k0=500");
     Due.is("at the most", x.sum(0, 5, 5, 0), 7500);
+  }
+
+  private static void leastSum() {
+    MostSold x = new MostSold();
+    x.title(0);
+    x.thing(0, 0, 9);
+    x.shop(0, 1, 0, 51);
+    x.shop(0, 1, 0, 51);
+    x.sale(0, 0, 5, 0, 100, 0, 5);
+    Due.rules(x, "f0=1;k0=1@5");
+    x.empty(1, 5, 6);
+    Due.is("a hundredth", x.sum(0, 5, 5, 0), 1);
+    Due.is("is listed", x.place(0, 5, 5), 1);
+    Due.is("is sure", x.sure(0, 5), 10000);
+    x.asOf(5);
+    Due.is("is worth as much", x.worth(1, 5), 1);
+    Due.is("is asked for", x.ask(5, 10), 2);
   }
 
   private static void sure() {
